@@ -3,6 +3,7 @@ public final class Promise03EndTest {
         onlyTheFirstBytesCount();
         refusesWhatIsNotThere();
         whatIsBehindIsGone();
+        whatIsBehindIsNotSeen();
         noneLeft();
         Check.finish();
     }
@@ -43,6 +44,19 @@ public final class Promise03EndTest {
         Check.same("end(21)", true, x.end(21));
         Check.same("end(2)", true, x.end(2));
         Check.same("length()", 19, x.length());
+    }
+
+    /** Each text would be right with the bytes that follow, but not as it ends. */
+    private static void whatIsBehindIsNotSeen() {
+        String[] texts = {"1:2:3:4:5:6:7::", "1::", "::", "1.2.3.4", "1:2:3:4:5:6:7:8"};
+        for (String text : texts) {
+            AddressTexts x = new AddressTexts();
+            Check.tape(x, text);
+            Check.same("end within " + text, true, x.end(text.length() - 1));
+            Check.same("read() of " + text + " without its last byte", AddressTexts.NONE, x.read());
+        }
+        AddressTexts full = new AddressTexts();
+        Check.same("read of sixty bytes", AddressTexts.NONE, Check.read(full, "1".repeat(59) + ":"));
     }
 
     private static void noneLeft() {
