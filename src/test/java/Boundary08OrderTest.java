@@ -59,7 +59,7 @@ public final class Boundary08OrderTest {
     }
 
     private static void theAddressAheadOfTheLength() {
-        Check.sentence("by address .., then by length");
+        Check.sentence("by address (without sign), then by length");
         first("0.0.0.0/32", "0.0.0.1/0");
         first("1.2.3.4/32", "1.2.3.5/0");
         first("127.0.0.0/32", "128.0.0.0/1");
